@@ -668,7 +668,7 @@ public final class TemplateQuarry {
         }
 
         private void pass(char c) {
-            if (sign(at) == c) {
+            if (!failed() && sign(at) == c) {
                 at++;
             } else {
                 reject();
@@ -755,9 +755,7 @@ public final class TemplateQuarry {
             at++;
             result.tags++;
             readHead(tag, block);
-            if (!failed()) {
-                pass('}');
-            }
+            pass('}');
             if (!failed()) {
                 note(tag);
                 readBodies(tag, tag.kind == '#' ? tag.digit : block, depth + 1);
@@ -953,17 +951,31 @@ public final class TemplateQuarry {
             if (c == '\'') {
                 return readQuote();
             }
-            if (c == '!') {
-                at++;
-                Expression not = new Expression('!');
-                not.left = readExpression(depth + 1);
-                return not;
+            if (c != '!' && c != '(') {
+                reject();
+                return null;
             }
-            if (c == '(') {
-                return readOperation(depth + 1);
+            at++;
+            Expression first = readExpression(depth + 1);
+            Expression whole = new Expression(c == '!' ? c : readOperator());
+            whole.left = first;
+            if (c == '(' && !failed()) {
+                whole.right = readExpression(depth + 1);
+                pass(')');
             }
-            reject();
-            return null;
+            return whole;
+        }
+
+        private char readOperator() {
+            char c = sign(at);
+            switch (c) {
+                case '+': case '-': case '*': case '<': case '=': case '&': case '?':
+                    at++;
+                    return c;
+                default:
+                    reject();
+                    return 0;
+            }
         }
 
         private Expression readNumeral() {
@@ -1005,26 +1017,6 @@ public final class TemplateQuarry {
 
         private static boolean isQuotable(char c) {
             return c != '\'' && c != '{' && c != '}' && c != 0;
-        }
-
-        private Expression readOperation(int depth) {
-            at++;
-            Expression left = readExpression(depth);
-            char c = sign(at);
-            Expression operation = new Expression(c);
-            operation.left = left;
-            if (c != '+' && c != '-' && c != '*' && c != '<' && c != '=' && c != '&' && c != '?') {
-                reject();
-            }
-            if (failed()) {
-                return operation;
-            }
-            at++;
-            operation.right = readExpression(depth);
-            if (!failed()) {
-                pass(')');
-            }
-            return operation;
         }
     }
 
@@ -1872,7 +1864,7 @@ public final class TemplateQuarry {
                 case '=':
                     return output.putValue(value, node.origin());
                 case 't':
-                    return putMessage(node, value);
+                    return value.kind == IS_NUMBER ? output.putForm(formOf(node, value), value.number, node.origin()) : TYPE;
                 case '?':
                     return enter(value.isTrue() ? node.body : node.second);
                 case '*':
@@ -1882,11 +1874,8 @@ public final class TemplateQuarry {
             }
         }
 
-        private int putMessage(Node node, Value value) {
-            if (value.kind != IS_NUMBER) {
-                return TYPE;
-            }
-            return output.putForm(forms[2 * node.digit + (value.number == 1 ? 0 : 1)], value.number, node.origin());
+        private Value formOf(Node node, Value count) {
+            return forms[2 * node.digit + (count.number == 1 ? 0 : 1)];
         }
 
         private int enter(Node body) {
