@@ -20,6 +20,7 @@ public final class OutputTest {
         s.puts("<s \"{=t}", "<s \"&l;&g;&a;&q;'\\aZ0 ~-");
         s.puts("<s>{=t}", "<s>aZ0");
         s.puts("<s>'{=t}", "<s>'_>&\"__aZ0 ~-");
+        s.text('b', "@AZ[`az{/09:").puts("<b {=b}", "<b AZaz09");
         // numbers and safe texts are put out as they are, and lead on
         s.puts("<{=n}{=q}", "<-5qs");
         s.puts("<{=q|r}", "<q\"s>'");

@@ -271,6 +271,7 @@ public final class RenderingTest {
     }
 
     private static void callersBodies() {
+        new Sheet().puts("{$1x=1y=(x+1)z=y}{=x}{=y}{=z}{;}{!1}", "122");
         Sheet s = new Sheet();
         s.number('a', 9);
         s.puts("{$1}<{~}{~}>{;}{&1}x{;}", "<xx>");
@@ -513,6 +514,12 @@ public final class RenderingTest {
         hitsAgain(s, 0, 1);
         s.number('a', 6);
         hitsAgain(s, 0, 1);
+        s.set(0, "{$1}{=a}{;}{k1}{k2}{!1}{;}{=b}{;}");
+        hitsAgain(s, 0, 0);
+        s.number('b', 7);
+        hitsAgain(s, 0, 1);
+        s.number('a', 7);
+        hitsAgain(s, 0, 0);
         // not kept with a trim or a body of the caller in it, but what stands beside them is
         s.set(0, "{k1}a{-}{k2}b{;}{;}");
         s.renders(0, "ab");
