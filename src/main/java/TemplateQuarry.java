@@ -1415,7 +1415,8 @@ public final class TemplateQuarry {
             int at = scope;
             for (int i = 0; i < MOST_FRAMES && at >= 0; i++) {
                 Frame frame = frames[at];
-                for (int place = frame.base; place < frame.base + frame.count; place++) {
+                int end = Math.min(frame.base + frame.count, MOST_VARIABLES);
+                for (int place = frame.base; place < end; place++) {
                     if (variables[place].letter == letter) {
                         return place;
                     }
@@ -2127,7 +2128,7 @@ public final class TemplateQuarry {
         private static final int ALL = (1 << CONTEXTS) - 1;
 
         /** The contexts in which one may stand behind a body. */
-        static int through(Node first, int ahead, int changed, int depth) {
+        private static int through(Node first, int ahead, int changed, int depth) {
             int set = ahead;
             if (depth >= MOST_NESTED) {
                 return ALL;
@@ -2208,7 +2209,7 @@ public final class TemplateQuarry {
         }
 
         /** The place of the first tag of a body that may fail, if variables have the kinds; NONE if there is none. */
-        static int firstFailing(Node first, int[] kindsAhead, int depth) {
+        private static int firstFailing(Node first, int[] kindsAhead, int depth) {
             if (first == null || depth >= MOST_NESTED) {
                 return NONE;
             }
