@@ -1506,9 +1506,13 @@ public final class TemplateQuarry {
                 case ITEM:
                     return findItem(value, stack.read(scope, whole.number), whole.digit);
                 default:
-                    break;
+                    return findFromParts(whole, scope, slot, depth);
             }
+        }
+
+        private int findFromParts(Expression whole, int scope, int slot, int depth) {
             int failure = find(whole.left, scope, slot, depth + 1);
+            Value value = slots[slot];
             if (failure != 0 || isEnough(whole.kind, value)) {
                 return failure;
             }
