@@ -1,7 +1,18 @@
+import java.io.IOException;
+import java.io.UncheckedIOException;
+import java.nio.file.Files;
+import java.nio.file.Path;
+
 /** A new object with what tests do to it again and again, and the count of what was not as due. */
 final class Sheet {
+    private static final Path DOCUMENT = Path.of("../shared/DOC.md");
+
     private static int asked;
     private static int wrong;
+    private static String document;
+    private static String sentence = "";
+    private static int askedAhead;
+    private static int sentences;
 
     final TemplateQuarry x = new TemplateQuarry();
 
@@ -9,20 +20,47 @@ final class Sheet {
         void run();
     }
 
+    /** What is asked from here on goes by a sentence of the document, which must stand there word by word. */
+    static void says(String words) {
+        closeSentence();
+        sentence = words;
+        askedAhead = asked;
+        sentences++;
+        if (Files.exists(DOCUMENT) && !document().contains(words)) wrong("the document does not say this");
+    }
+
+    private static void closeSentence() {
+        if (sentences > 0 && asked == askedAhead) wrong("nothing is asked of this");
+    }
+
+    private static String document() {
+        if (document == null) {
+            try {
+                document = Files.readString(DOCUMENT);
+            } catch (IOException e) {
+                throw new UncheckedIOException(e);
+            }
+        }
+        return document;
+    }
+
+    private static void wrong(String what) {
+        wrong++;
+        System.out.println((sentence.isEmpty() ? "" : "\"" + sentence + "\"\n    ") + what);
+    }
+
     static void due(String what, long got, long want) {
         asked++;
-        if (got != want) {
-            wrong++;
-            System.out.println(what + ": answered " + got + ", due is " + want);
-        }
+        if (got != want) wrong(what + ": answered " + got + ", due is " + want);
+    }
+
+    static void due(String what, boolean got, boolean want) {
+        due(what, got ? 1 : 0, want ? 1 : 0);
     }
 
     static void due(String what, String got, String want) {
         asked++;
-        if (!got.equals(want)) {
-            wrong++;
-            System.out.println(what + ": answered [" + got + "], due is [" + want + "]");
-        }
+        if (!got.equals(want)) wrong(what + ": answered [" + got + "], due is [" + want + "]");
     }
 
     static void throwsDue(String what, Class<? extends RuntimeException> want, Call call) {
@@ -30,17 +68,16 @@ final class Sheet {
         try {
             call.run();
         } catch (RuntimeException e) {
-            if (e.getClass() == want) return;
-            wrong++;
-            System.out.println(what + ": threw " + e + ", due is " + want);
+            if (e.getClass() != want) wrong(what + ": threw " + e + ", due is " + want);
             return;
         }
-        wrong++;
-        System.out.println(what + ": threw nothing, due is " + want);
+        wrong(what + ": threw nothing, due is " + want);
     }
 
     static void end() {
-        System.out.println(asked - wrong + " of " + asked + " answers are as due");
+        closeSentence();
+        String bySentences = sentences == 0 ? "" : ", by " + sentences + " sentences of the document";
+        System.out.println(asked - wrong + " of " + asked + " answers are as due" + bySentences);
         if (wrong != 0 || asked == 0) System.exit(1);
     }
 
