@@ -7,17 +7,19 @@ public final class AgainstOracleTest {
     private static int shownHits;
     private static int renders;
 
-    private final TemplateQuarry x = new TemplateQuarry();
+    private final Quarry x = new Quarry();
     private final Oracle o = new Oracle();
     private final Chance chance;
     private final Writer writer;
     private final StringBuilder told = new StringBuilder();
+    private final boolean gentle;
     private boolean right = true;
     private int lately;
 
     private AgainstOracleTest(long seed) {
         chance = new Chance(seed);
-        writer = new Writer(chance);
+        gentle = seed % 2 == 0;
+        writer = new Writer(chance, gentle);
     }
 
     private static long answer(IntSupplier call) {
@@ -75,9 +77,12 @@ public final class AgainstOracleTest {
     }
 
     private void template() {
-        int t = chance.below(4);
-        String s = writer.template(80);
-        if (chance.in(6)) s = writer.spoilt(s);
+        template(chance.below(4));
+    }
+
+    private void template(int t) {
+        String s = writer.template(80, t == 3);
+        if (chance.in(gentle ? 20 : 6)) s = writer.spoilt(s);
         type(s);
         same("fault", x::fault, o::fault);
         if (same("template " + t, () -> x.template(t), () -> o.template(t)) >= 1L << 40) {
@@ -150,20 +155,25 @@ public final class AgainstOracleTest {
         same("mayEnd " + t, () -> x.mayEnd(t), () -> o.mayEnd(t));
     }
 
+    private boolean goesOn() {
+        return right && !x.hasLongPast();
+    }
+
     private void run(int calls) {
-        for (int t = 0; t < 6; t++) template();
-        for (int i = 0; i < 8; i++) data();
+        for (int t = 0; t < 4; t++) template(t);
+        for (int i = 0; i < 8 && goesOn(); i++) data();
         boolean settled = chance.in(2);
-        if (chance.in(3)) {
+        if (gentle || chance.in(3)) {
             x.list('l');
             o.list('l');
             told.append("list l\n");
-            for (int i = 0; i < 8; i++) {
+            int items = chance.in(3) ? 8 : 1 + chance.below(3);
+            for (int i = 0; i < items; i++) {
                 int value = i;
                 same("add " + value, () -> x.add('l', value), () -> o.add('l', value));
             }
         }
-        for (int i = 0; i < calls && right; i++) {
+        for (int i = 0; i < calls && goesOn(); i++) {
             switch (chance.below(12)) {
                 case 0:
                     if (!settled) template();

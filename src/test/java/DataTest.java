@@ -13,7 +13,7 @@ public final class DataTest {
 
     private static void names() {
         Sheet s = new Sheet();
-        TemplateQuarry x = s.x;
+        Quarry x = s.x;
         s.type("t");
         for (int c : new int[] {0, 'A', 'a' - 1, 'z' + 1, 65535}) {
             char name = (char) c;
@@ -55,7 +55,7 @@ public final class DataTest {
 
     private static void lists() {
         Sheet s = new Sheet();
-        TemplateQuarry x = s.x;
+        Quarry x = s.x;
         s.type("t");
         Sheet.throwsDue("add to nothing", IllegalStateException.class, () -> x.add('l', 1));
         Sheet.throwsDue("addText to nothing", IllegalStateException.class, () -> x.addText('l'));

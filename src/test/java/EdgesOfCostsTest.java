@@ -370,7 +370,7 @@ public final class EdgesOfCostsTest {
 
     private static void sameValues() {
         Sheet s = new Sheet();
-        TemplateQuarry x = s.x;
+        Quarry x = s.x;
         Sheet.says("and all these variables have values alike, and safe just as then, what was kept is put out instead");
         s.set(0, "{k1}{?a}{;}{;}");
         again(s, 0);

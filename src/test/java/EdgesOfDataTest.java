@@ -81,7 +81,7 @@ public final class EdgesOfDataTest {
 
     private static void adding() {
         Sheet s = new Sheet();
-        TemplateQuarry x = s.x;
+        Quarry x = s.x;
         Sheet.says("Throws `IllegalStateException` if it is no list, or has 8 items");
         s.number('n', 0).text('t', "");
         s.type("t");
@@ -119,7 +119,7 @@ public final class EdgesOfDataTest {
 
     private static void clearing() {
         Sheet s = new Sheet();
-        TemplateQuarry x = s.x;
+        Quarry x = s.x;
         Sheet.says("Returns whether it was anything else.");
         for (char v : new char[] {'a', 'z'}) {
             Sheet.due("nothing", x.clear(v), false);

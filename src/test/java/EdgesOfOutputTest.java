@@ -152,7 +152,7 @@ public final class EdgesOfOutputTest {
 
     private static void places() {
         Sheet s = new Sheet();
-        TemplateQuarry x = s.x;
+        Quarry x = s.x;
         Sheet.says("Throws `IndexOutOfBoundsException` if there is no such place");
         for (int n : new int[] {0, 1, 80}) {
             s.set(0, "x".repeat(n));
@@ -194,19 +194,20 @@ public final class EdgesOfOutputTest {
     }
 
     private static void outAnew() {
-        Sheet s = new Sheet();
         Sheet.says("Returns the same, by itself: the character that it stands for in a literal, number, text or message, put out anew");
         String all = "";
         for (char c = 32; c <= 126; c++) all += c;
-        s.set(0, "{=a|r}{=t}").set(1, "{=a|r}{k1}{=t}-{;}");
         for (int in = 0; in < TO.length; in++) {
+            Sheet s = new Sheet();
+            s.set(0, "{=a|r}{=t}").set(1, "{=a|r}{k1}{=t}-{;}").text('a', TO[in]);
             for (int from = 0; from < all.length(); from += 24) {
-                s.text('a', TO[in]).text('t', all.substring(from, Math.min(all.length(), from + 24)));
+                s.text('t', all.substring(from, Math.min(all.length(), from + 24)));
                 same(s, 0);
                 same(s, 1);
                 same(s, 1);
             }
         }
+        Sheet s = new Sheet();
         s.message(0, "<#\"", "&#").number('n', -12).text('t', "<&").set(2, "< {-}{=t}s{t0n}>{=t}'{=t}'{=n}{+}<\"{=z}{:}<{=t}{;}b{t01}{t01}{=t}");
         same(s, 2);
     }

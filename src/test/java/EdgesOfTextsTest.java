@@ -23,7 +23,7 @@ public final class EdgesOfTextsTest {
 
     private static void aNewObject() {
         Sheet.says("Ten templates and messages without characters; no output.");
-        TemplateQuarry x = new TemplateQuarry();
+        Quarry x = new Quarry();
         Sheet.throwsDue("no output", IndexOutOfBoundsException.class, () -> x.out(0));
         Sheet.throwsDue("no output", IndexOutOfBoundsException.class, () -> x.outAnew(0));
         Sheet.throwsDue("no output", IndexOutOfBoundsException.class, () -> x.source(0));
@@ -51,7 +51,7 @@ public final class EdgesOfTextsTest {
     }
 
     private static void typing() {
-        TemplateQuarry x = new TemplateQuarry();
+        Quarry x = new Quarry();
         Sheet.says("with a code of 32 to 126");
         Sheet.due("32", x.type((char) 32), 1);
         Sheet.due("126", x.type((char) 126), 2);

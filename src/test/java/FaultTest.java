@@ -3,7 +3,7 @@ public final class FaultTest {
     private static int wrong;
     private static int asked;
 
-    private static void ask(TemplateQuarry x, String s) {
+    private static void ask(Quarry x, String s) {
         x.wipe();
         for (char c : s.toCharArray()) x.type(c);
         int got = x.fault();
@@ -15,14 +15,14 @@ public final class FaultTest {
         }
     }
 
-    private static void all(TemplateQuarry x, String ahead, String signs, int most) {
+    private static void all(Quarry x, String ahead, String signs, int most) {
         ask(x, ahead);
         if (most == 0) return;
         for (char c : signs.toCharArray()) all(x, ahead + c, signs, most - 1);
     }
 
     public static void main(String[] args) {
-        TemplateQuarry x = new TemplateQuarry();
+        Quarry x = new Quarry();
         String signs = "";
         for (char c = 32; c < 127; c++) signs += c;
         all(x, "", signs, 2);
@@ -35,8 +35,8 @@ public final class FaultTest {
         all(x, "{?a}", "{};:", 7);
         for (long seed = 1; seed <= 4000; seed++) {
             Chance chance = new Chance(seed);
-            Writer writer = new Writer(chance);
-            String s = writer.template(80);
+            Writer writer = new Writer(chance, false);
+            String s = writer.template(80, false);
             ask(x, s);
             for (int i = 0; i < 4; i++) ask(x, writer.spoilt(s));
         }

@@ -77,6 +77,7 @@ public final class LanguageTest {
         private final CompilationUnitTree unit;
         private final Trees trees;
         private final Map<String, Set<String>> calls = new TreeMap<>();
+        private final Set<String> open = new HashSet<>();
         private final Deque<String> within = new ArrayDeque<>();
         private int classes;
 
@@ -137,6 +138,7 @@ public final class LanguageTest {
             long to = unit.getLineMap().getLineNumber(trees.getSourcePositions().getEndPosition(unit, tree));
             if (to - from + 1 > 60) wrong(tree, "rule 11: " + name + " has " + (to - from + 1) + " lines");
             if (tree.getParameters().size() > 7) wrong(tree, "rule 11: " + name + " has too many parameters");
+            if (!e.getModifiers().contains(Modifier.PRIVATE)) open.add(name);
             within.push(name);
             calls.computeIfAbsent(name, k -> new TreeSet<>());
             super.visitMethod(tree, v);
@@ -230,6 +232,9 @@ public final class LanguageTest {
             if (classes > 12) wrong.add("rule 11: " + classes + " classes inside");
             Map<String, Set<String>> reached = new HashMap<>();
             for (String m : calls.keySet()) reached.put(m, reachedFrom(m));
+            for (String m : calls.keySet()) {
+                if (reached.get(m).contains(m) && open.contains(m)) wrong.add("rule 8: " + m + " is recursive and not private");
+            }
             Map<String, List<String>> longest = new HashMap<>();
             for (String m : calls.keySet()) {
                 List<String> way = longest(m, reached, longest);

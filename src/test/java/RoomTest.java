@@ -8,25 +8,35 @@ import java.util.function.Consumer;
  */
 public final class RoomTest {
     private static final long MOST_BYTES = 7_000_000;
+    private static final int MOST_CALLS = 512;
     private static int wrong;
+    private static int calls;
 
     private static final com.sun.management.ThreadMXBean THREADS =
             (com.sun.management.ThreadMXBean) ManagementFactory.getThreadMXBean();
 
     private static void type(TemplateQuarry x, String s) {
         for (char c : s.toCharArray()) x.type(c);
+        calls += s.length();
     }
 
     private static void template(TemplateQuarry x, int t, String s) {
         type(x, s);
         x.template(t);
+        calls++;
     }
 
     private static void measure(String name, Consumer<TemplateQuarry> prepare, Consumer<TemplateQuarry> call) {
+        measure(name, prepare, 1, call);
+    }
+
+    /** As often as a run has calls. */
+    private static void measure(String name, Consumer<TemplateQuarry> prepare, int callsAtOnce, Consumer<TemplateQuarry> call) {
         long before = THREADS.getThreadAllocatedBytes(Thread.currentThread().getId());
         TemplateQuarry x = new TemplateQuarry();
+        calls = 0;
         prepare.accept(x);
-        for (int i = 0; i < 420; i++) call.accept(x);
+        for (; calls <= MOST_CALLS - callsAtOnce; calls += callsAtOnce) call.accept(x);
         long bytes = THREADS.getThreadAllocatedBytes(Thread.currentThread().getId()) - before;
         System.out.println(name + ": " + bytes + " bytes");
         if (bytes > MOST_BYTES) {
@@ -42,6 +52,7 @@ public final class RoomTest {
             x.addText('l');
         }
         x.budget(2000);
+        calls += 10;
     }
 
     public static void main(String[] args) {
@@ -64,7 +75,7 @@ public final class RoomTest {
             template(x, 0, "{*al}{*bl}{%c(a+l|j)}{k1}{=c}{k2}{=b}{;}{;}{k3}{=(c+c)|l}{;}{;}{;}");
         }, x -> x.render(0));
         measure("includes", x -> template(x, 0, "{%a'xxxxxxxxxxxx'}{?1}{?1}{?1}{+}{@0}{:}{@0}{;}{;}{;}{;}"), x -> x.render(0));
-        measure("lists that grow", x -> { }, x -> {
+        measure("lists that grow", x -> { }, 3, x -> {
             x.list('l');
             x.add('l', 1);
             x.add('l', 2);

@@ -14,7 +14,7 @@ final class Sheet {
     private static int askedAhead;
     private static int sentences;
 
-    final TemplateQuarry x = new TemplateQuarry();
+    final Quarry x = new Quarry();
 
     interface Call {
         void run();

@@ -10,7 +10,7 @@ public final class TextsTest {
     }
 
     private static void newObject() {
-        TemplateQuarry x = new TemplateQuarry();
+        Quarry x = new Quarry();
         Sheet.due("wipe of a new one", x.wipe(), 0);
         Sheet.due("fault of no text", x.fault(), TemplateQuarry.NONE);
         Sheet.due("spent", x.spent(), 0);
@@ -40,7 +40,7 @@ public final class TextsTest {
     }
 
     private static void typing() {
-        TemplateQuarry x = new TemplateQuarry();
+        Quarry x = new Quarry();
         for (int c : new int[] {0, 10, 31, 127, 128, 255, 65535}) {
             Sheet.throwsDue("type " + c, IllegalArgumentException.class, () -> x.type((char) c));
         }

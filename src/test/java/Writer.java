@@ -7,24 +7,37 @@ final class Writer {
     private final StringBuilder liked = new StringBuilder();
     private final int digits;
     private final int plain;
+    /** Writes what seldom fails, so that much is rendered and kept. */
+    private final boolean gentle;
+    private boolean includes;
+    private int blocks;
 
-    Writer(Chance chance) {
+    Writer(Chance chance, boolean gentle) {
         this.chance = chance;
+        this.gentle = gentle;
         digits = 1 + chance.below(2);
         plain = chance.below(5);
         for (char kind : KINDS.toCharArray()) {
             int times = chance.in(4) ? 8 : chance.in(3) ? 0 : 1 + chance.below(2);
             for (int i = 0; i < times; i++) liked.append(kind);
         }
-        liked.append('=');
+        liked.append(gentle ? "=kk" : "=");
     }
 
-    String template(int most) {
+    /** The text of a template, and of a gentle one if it is the template that others include. */
+    String template(int most, boolean isIncluded) {
+        includes = !isIncluded;
         for (int i = 0; i < 1000; i++) {
-            String s = (chance.in(3) ? "{<" + chance.below(4) + "}" : "") + body(0, 6);
+            blocks = 0;
+            String s = gentle ? gentleTemplate(isIncluded) : (chance.in(3) ? "{<" + chance.below(4) + "}" : "") + body(0, 6);
             if (s.length() <= most) return s;
         }
         return "";
+    }
+
+    private String gentleTemplate(boolean isIncluded) {
+        String macro = chance.in(2) ? "{$0" + parameters() + "}" + body(3, 4) + "{;}" : "";
+        return isIncluded || chance.in(2) ? macro + body(0, 6) : "{<3}{#0}" + body(1, 5) + (chance.in(2) ? "{^}" : "") + "{;}" + macro;
     }
 
     String spoilt(String s) {
@@ -71,16 +84,20 @@ final class Writer {
             case '?':
                 return "{?" + expression(0) + "}" + body(in, 3) + (chance.in(2) ? "{:}" + body(in, 3) : "") + "{;}";
             case '*':
-                return "{*" + letter() + (chance.in(4) ? expression(0) : "" + chance.among("lm")) + "}" + body(in, 3)
+                return "{*" + letter() + (gentle ? "l" : chance.in(4) ? expression(0) : "" + chance.among("lm")) + "}" + body(in, 3)
                         + (chance.in(3) ? "{:}" + body(in, 3) : "") + "{;}";
             case '+':
                 return "{+}" + body(in, 3) + "{:}" + body(in, 3) + "{;}";
-            case '#':
-                return "{#" + digit() + "}" + body(in, 3) + "{;}";
+            case '#': {
+                blocks++;
+                String block = "{#" + digit() + "}" + body(in, 3) + "{;}";
+                blocks--;
+                return block;
+            }
             case '^':
-                return "{^}";
+                return gentle && (blocks == 0 || !includes) ? "" : "{^}";
             case '@':
-                return "{@" + chance.below(4) + "}";
+                return gentle ? includes ? "{@3}" : "" : "{@" + chance.below(4) + "}";
             case '$':
                 return "{$" + digit() + parameters() + "}" + body(in, 3) + "{;}";
             case '!':
@@ -103,14 +120,17 @@ final class Writer {
     }
 
     private int digit() {
-        return chance.below(digits);
+        return gentle ? 0 : chance.below(digits);
     }
 
     private char letter() {
-        return chance.among("aabbcxylm");
+        return chance.among(gentle ? "aabbcx" : "aabbcxylm");
     }
 
+    private static final String[] GENTLE_PARAMETERS = {"ab", "ab=1", "a=bb", "a=1b=2", "a='q'b=(a?1)", "abx=b"};
+
     private String parameters() {
+        if (gentle) return GENTLE_PARAMETERS[chance.below(GENTLE_PARAMETERS.length)];
         StringBuilder b = new StringBuilder();
         String had = "";
         int n = chance.below(4);
@@ -126,16 +146,24 @@ final class Writer {
 
     private String arguments() {
         StringBuilder b = new StringBuilder();
-        int n = chance.below(4);
+        int n = chance.below(gentle ? 3 : 4);
         for (int i = 0; i < n; i++) {
             if (i > 0) b.append(',');
-            if (chance.in(4)) b.append(letter()).append(':');
+            if (chance.in(gentle ? 9 : 4)) b.append(letter()).append(':');
             b.append(expression(1));
         }
         return b.toString();
     }
 
+    private String gentleExpression(int depth) {
+        char v = letter();
+        String[] some = {v + "|d0", v + "|d'<'", v + "|d" + letter(), "(" + v + "=" + letter() + ")", "(" + v + "?2)", "!" + v, "l|j", "l|l", "l.0",
+            "" + chance.below(3), "'a '", "" + v};
+        return some[chance.below(depth == 0 ? some.length : some.length - 1)];
+    }
+
     String expression(int depth) {
+        if (gentle) return gentleExpression(depth);
         if (chance.below(5) < plain) return "" + letter();
         StringBuilder b = new StringBuilder(primary(depth));
         while (chance.in(4)) {
